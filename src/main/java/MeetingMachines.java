@@ -248,24 +248,26 @@ public final class MeetingMachines {
             return NONE;
         }
         trial.copy(now);
-        if (what > 1) {
-            return firstTime(n, what == 2);
-        }
-        for (int t = 0; t < n; t++) {
+        int first = isSoFirst(what) ? 0 : LACKING;
+        for (int t = 1; t <= n && first == LACKING; t++) {
             trial.pass(program);
+            if (isSoFirst(what)) {
+                first = t;
+            }
         }
-        return what == 0 ? trial.diary.total - now.diary.total : trial.haltedBits();
+        switch (what) {
+            case 0:
+                return trial.diary.total - now.diary.total;
+            case 1:
+                return trial.haltedBits();
+            default:
+                return first;
+        }
     }
 
-    /** Behind how many TICKS of the trial all is STUCK, else a machine is HALTED. */
-    private int firstTime(int n, boolean asksStuck) {
-        for (int t = 0; t <= n; t++) {
-            if (asksStuck ? trial.isStuck(program) : trial.haltedBits() != 0) {
-                return t;
-            }
-            trial.pass(program);
-        }
-        return LACKING;
+    /** Whether what is asked first is so in the trial: all STUCK, a machine HALTED. */
+    private boolean isSoFirst(int what) {
+        return what == 2 && trial.isStuck(program) || what == 3 && trial.haltedBits() != 0;
     }
 
     public int share(int machine, int p, int n) {
@@ -755,6 +757,7 @@ public final class MeetingMachines {
         private void readInstruction() {
             if (kind == LETTERS && name() == NONE) {
                 readLabel();
+                takeSign(':');
             }
             int op = name();
             if (op == NONE || op >= OPS) {
@@ -782,7 +785,6 @@ public final class MeetingMachines {
             }
             program.addLabel(value);
             scan();
-            takeSign(':');
         }
 
         private void takeSign(int sign) {
@@ -879,8 +881,12 @@ public final class MeetingMachines {
             if (isFull()) {
                 return;
             }
+            int priority = p & 1;
             int at = 0;
-            while (at < size && !comesAhead(p, t, at)) {
+            while (at < size && (process[at] & 1) < priority) {
+                at++;
+            }
+            while (at < size && (process[at] & 1) == priority && !isAfter(time[at], t)) {
                 at++;
             }
             for (int i = size; i > at; i--) {
@@ -892,13 +898,6 @@ public final class MeetingMachines {
             time[at] = t;
             isByTaltwt[at] = byTaltwt;
             size++;
-        }
-
-        /** Whether a process that comes in goes ahead of who stands at a place. */
-        private boolean comesAhead(int p, int t, int at) {
-            int priority = p & 1;
-            int itsPriority = process[at] & 1;
-            return itsPriority == priority ? isAfter(time[at], t) : itsPriority > priority;
         }
 
         void remove(int at) {
@@ -1241,15 +1240,6 @@ public final class MeetingMachines {
             reg[BACK + priority] = p;
         }
 
-        private void awake(int p) {
-            int i = timers.findByTaltwt(p);
-            if (i != NONE) {
-                timers.remove(i);
-                memory[p / 2 - 4] = NOTSET;
-            }
-            schedule(p);
-        }
-
         private void goOff() {
             memory[reg[W] - 1] = reg[I];
             reg[W] = NONE;
@@ -1435,10 +1425,12 @@ public final class MeetingMachines {
         }
 
         private boolean startProcess() {
-            if (!isW(reg[A])) {
+            int w = reg[A];
+            if (!isW(w)) {
                 return false;
             }
-            beginProcess(reg[A], reg[PRIORITY], reg[B]);
+            memory[w - 1] = reg[B];
+            schedule(2 * w + reg[PRIORITY]);
             pop();
             pop();
             return true;
@@ -1544,12 +1536,19 @@ public final class MeetingMachines {
         /** One in an alternative is told that somebody would send. */
         private void alert(int p) {
             int at = p / 2 - 3;
-            if (memory[at] == ENABLING) {
+            boolean isWaiting = memory[at] == WAITING;
+            if (isWaiting || memory[at] == ENABLING) {
                 memory[at] = READY;
-            } else if (memory[at] == WAITING) {
-                memory[at] = READY;
-                awake(p);
             }
+            if (!isWaiting) {
+                return;
+            }
+            int i = timers.findByTaltwt(p);
+            if (i != NONE) {
+                timers.remove(i);
+                memory[p / 2 - 4] = NOTSET;
+            }
+            schedule(p);
         }
 
         private boolean useLink(boolean sends, int k, int first, int many) {
