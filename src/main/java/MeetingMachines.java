@@ -1483,6 +1483,7 @@ public final class MeetingMachines {
             int many = reg[A];
             int channel = reg[B];
             int first = reg[C];
+            clear();
             if (many < 1 || many > MOST_WORDS || !isPlace(channel) || !arePlaces(first, many)) {
                 return false;
             }
@@ -1506,12 +1507,11 @@ public final class MeetingMachines {
             if (!arePlaces(state, many)) {
                 return false;
             }
-            meet(sends, channel, v, many);
+            meet(sends, channel, v, many, first);
             return true;
         }
 
-        private void meet(boolean sends, int channel, int other, int many) {
-            int mine = reg[C];
+        private void meet(boolean sends, int channel, int other, int many, int mine) {
             int its = memory[other / 2 - 3];
             for (int k = 0; k < many; k++) {
                 if (sends) {
@@ -1523,14 +1523,12 @@ public final class MeetingMachines {
             memory[channel] = NONE;
             schedule(other);
             diary.note(number, channel, sends ? own() : other, sends ? other : own(), many);
-            clear();
         }
 
         private void waitAt(int channel, int first) {
             memory[channel] = own();
             memory[reg[W] - 3] = first;
             goOff();
-            clear();
         }
 
         /** One in an alternative is told that somebody would send. */
@@ -1565,7 +1563,6 @@ public final class MeetingMachines {
                 link.beginReceiving(own(), first, many);
             }
             goOff();
-            clear();
             return true;
         }
 

@@ -10,6 +10,7 @@ public final class CallsTest {
         promise11Start();
         promise12Tick();
         promise13Undo();
+        undoneWhole();
         promise14Machine();
         promise15Word();
         promise16Queue();
@@ -168,6 +169,32 @@ public final class CallsTest {
         due.is("who receives", x.link(0, 0, 2), -1);
         due.is("ALT", x.link(0, 1, 6), -1);
         due.is("QUEUE", x.queue(0, 0, -1), 3);
+    }
+
+    /** All that a machine has is laid back: another way is gone in between. */
+    private static void undoneWhole() {
+        MeetingMachines x = Due.of("join 1 0 0 0; join 0 0 1 0; s: ldc 70; ldc 0; ldc 2; out; stopp; word 1 70 5;"
+                + "word 1 71 6; r: ldc 80; ldc 2; ldc 2; in; stopp; c: ldc 2; ldc 1; enbc; stopp; run 1 30 1 s;");
+        x.tick(4);
+        due.is("FULL", x.link(0, 0, 4), 1);
+        x.start(0, 40, 1, 5);
+        due.is("the MEETING", x.tick(9), 1);
+        due.is("told", x.meeting(0, 5), 2);
+        x.poke(1, 70, 44);
+        x.start(1, 50, 0, 0);
+        x.tick(5);
+        due.is("another word", x.link(0, 0, 5), 44);
+        due.is("undo()", x.undo(), 5);
+        x.undo();
+        x.undo();
+        due.is("undo()", x.undo(), 2);
+        due.is("the word", x.link(0, 0, 5), 5);
+        due.is("left to send", x.link(1, 0, 1), 1);
+        due.is("who sends", x.link(1, 0, 0), 61);
+        due.is("the MEETING again", x.tick(9), 1);
+        due.is("told", x.meeting(0, 5), 2);
+        due.is("words", x.word(0, 80), 5);
+        due.is("words", x.word(0, 81), 6);
     }
 
     private static void promise14Machine() {
@@ -381,6 +408,11 @@ public final class CallsTest {
         // by turns of 1 to 16 INSTRUCTIONS a counter stands at unlike numbers
         x = Due.of("a: adc 1; j a; b: ldl 1; adc 1; stl 1; j b; run 0 20 1 a; run 0 30 1 b;");
         due.is("many", x.slices(0, 31, 200), counters(x));
+        // a j as 15th INSTRUCTION: SLICE 16 alone goes on; a j as first: SLICE 1 alone is OFF
+        String first = "run 0 20 1 a; run 0 30 1 b; b: ldlp 0; ldc 60; store; stopp; a: ";
+        due.is("SLICE 16", Due.of(first + "adc 1;".repeat(14) + "j a;").slices(0, 60, 18), 2);
+        due.is("SLICE 17 is none", Due.of(first + "adc 1;".repeat(15) + "j a;").slices(0, 60, 19), 1);
+        due.is("SLICE 1", Due.of(first + "j c; c: adc 1; adc 1; adc 1; adc 1; stopp;").slices(0, 60, 4), 2);
         due.is("slices(0, 60, 201)", x.slices(0, 60, 201), -1);
         due.is("slices(0, 60, -1)", x.slices(0, 60, -1), -1);
         due.is("slices(0, 96, 5)", x.slices(0, 96, 5), -1);

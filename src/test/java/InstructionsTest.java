@@ -190,6 +190,7 @@ public final class InstructionsTest {
         x.tick(3);
         due.is("I at W - 1", x.word(0, 19), 3);
         due.is("QUEUE", x.queue(0, 1, 0), 61);
+        has("ldc 5; ldc 6; ldc 61; runp;", 4, 6, 5, 5);
         x.tick(1);
         due.is("who runs", x.machine(0, 4), 30);
         due.is("A", x.machine(0, 0), 5);
@@ -224,6 +225,16 @@ public final class InstructionsTest {
         due.is("FRONT", x.queue(0, 0, 0), 60);
         due.is("did", x.machine(0, 8), 2);
         due.is("CLOCK", x.machine(0, 6), 2);
+        // a FRONT that is no PROCESS WORD: only TAKING it HALTS
+        x = Due.of("a: stopp; run 0 20 0 a; run 0 30 0 a;");
+        x.poke(0, 18, 192);
+        x.tick(1);
+        due.is("FRONT is 192", x.machine(0, 7), 0);
+        due.is("not of the QUEUE", x.queue(0, 0, -1), 0);
+        due.no("but there is a FRONT", x.stuck());
+        x.tick(1);
+        due.is("HALTED", x.machine(0, 7), 1);
+        due.is("CLOCK", x.machine(0, 6), 1);
         // no TIMERS end on a HALTED machine
         x = Due.of("a: ldc 30; tin; b: ldc 0; halt; run 0 20 0 a; run 0 30 1 b;");
         x.tick(50);

@@ -8,16 +8,19 @@ public final class MeetingsTest {
         wordsGoOneByOne();
         timers();
         twelveTimers();
+        timersMove();
         alternativeOfSkips();
         alternativeOfChannels();
         senderMeetsAlternative();
         alternativeOfTimes();
         links();
+        firstChannels();
         boundsOfLinks();
         linkOfUnlikeLengths();
         alternativeOfLinks();
         joinsOfHaltedMachines();
         meetingsKept();
+        meetingsComeBack();
         due.end();
     }
 
@@ -156,6 +159,50 @@ public final class MeetingsTest {
         x.undo();
         x.undo();
         due.is("not HALTED", x.machine(0, 7), 0);
+        x = Due.of(text + "b: talt; ldc 900; ldc 1; enbt; taltwt; word 0 94 77;");
+        x.tick(24);
+        x.start(0, 94, 1, 3);
+        x.tick(5);
+        due.is("HALTED by taltwt", x.machine(0, 7), 1);
+        due.is("the word at W is as ahead", x.word(0, 94), 77);
+        due.is("so is the one at W - 3", x.word(0, 91), -2);
+        x.undo();
+        x.poke(0, 60, 1);
+        x.tick(4);
+        x.poke(0, 90, 5);
+        x.tick(1);
+        due.is("not at SET: no TIMERS", x.machine(0, 7), 0);
+        due.is("WAITING", x.word(0, 91), -3);
+    }
+
+    private static void timersMove() {
+        // taltwt and tin in one row: each keeps how it came, wherever it stands
+        String text = "a: ldl 1; tin; stopp; b: talt; ldl 1; ldc 1; enbt; taltwt; stopp;"
+                + "word 0 21 70; word 0 31 60; word 0 41 50; word 0 51 40; word 0 61 45;"
+                + "run 0 20 0 b; run 0 30 0 a; run 0 40 0 b; run 0 50 0 a; run 0 60 0 b;";
+        MeetingMachines x = Due.of(text);
+        x.tick(30);
+        due.is("five", x.machine(0, 10), 5);
+        for (int i = 0; i < 5; i++) {
+            timer(x, i, new int[] {100, 120, 80, 60, 40}[i], new int[] {40, 45, 50, 60, 70}[i]);
+        }
+        x.poke(0, 56, 99);
+        x.poke(0, 36, 98);
+        x.keep(0);
+        for (int again = 0; again < 2; again++) {
+            x.tick(60);
+            due.is("by tin: W - 3", x.word(0, 47), -1);
+            due.is("by tin: W - 4", x.word(0, 46), -1);
+            due.is("by tin: W - 3", x.word(0, 27), -1);
+            due.is("by taltwt: W - 3", x.word(0, 57), -4);
+            due.is("by taltwt: W - 4", x.word(0, 56), -6);
+            due.is("by taltwt: W - 5", x.word(0, 55), 46);
+            due.is("by taltwt: W - 4", x.word(0, 36), -6);
+            due.is("by taltwt: W - 5", x.word(0, 35), 51);
+            due.is("by taltwt: W - 3", x.word(0, 17), -4);
+            due.is("by taltwt: W - 5", x.word(0, 15), 71);
+            x.back(0);
+        }
     }
 
     private static void alternativeOfSkips() {
@@ -381,6 +428,22 @@ public final class MeetingsTest {
         due.yes("stuck()", x.stuck());
     }
 
+    /** Places 4 and 5 are the first that are words and no LINKS. */
+    private static void firstChannels() {
+        MeetingMachines x = Due.of("a: ldc 70; ldc 4; ldc 1; out; run 0 20 0 a; b: ldc 70; ldc 5; ldc 1; in; run 0 30 0 b;"
+                + "c: ldc 5; ldc 1; enbc; ldc 4; ldc 1; enbc; ldc 4; ldc 1; ldc 9; disc; run 1 20 0 c; word 1 5 44;");
+        x.tick(8);
+        due.is("out at 4", x.word(0, 4), 40);
+        due.is("in at 5", x.word(0, 5), 60);
+        due.is("enbc at 5", x.word(1, 17), -4);
+        due.is("enbc at 4", x.word(1, 4), 40);
+        x.tick(2);
+        due.is("disc at 4", x.word(1, 4), -1);
+        due.is("no LINK", x.link(0, 0, 0), -1);
+        due.is("no LINK", x.link(0, 1, 2), -1);
+        due.is("no LINK", x.link(1, 1, 6), -1);
+    }
+
     private static void boundsOfLinks() {
         String run = " run 0 20 0 a;";
         halts("a: ldc 70; ldc 2; ldc 1; out;" + run, 4);
@@ -484,6 +547,19 @@ public final class MeetingsTest {
         due.is("no word more", x.link(1, 0, 3), 1);
         due.is("left to send", x.link(0, 0, 1), 1);
         due.yes("stuck()", x.stuck());
+    }
+
+    private static void meetingsComeBack() {
+        MeetingMachines x = Due.of("s: ldlp 1; ldc 60; ldc 1; out; j s; r: ldlp 1; ldc 60; ldc 1; in; j r;"
+                + "run 0 20 0 s; run 0 30 0 r;");
+        x.tick(300);
+        int eldest = x.meeting(0, 0);
+        int latest = x.meeting(29, 0);
+        x.tick(300);
+        due.yes("others are kept", x.meeting(0, 0) > latest);
+        x.undo();
+        due.is("the eldest", x.meeting(0, 0), eldest);
+        due.is("the latest", x.meeting(29, 0), latest);
     }
 
     private static void meetingsKept() {

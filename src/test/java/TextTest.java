@@ -7,6 +7,7 @@ public final class TextTest {
         promise2Feed();
         promise3End();
         promise4Text();
+        promise4BeginsAnew();
         promise4Faults();
         promise4BoundsOfLines();
         promise4AllElseStays();
@@ -96,6 +97,33 @@ public final class TextTest {
         due.is("word", x.word(1, 7), -1);
         due.is("CLOCK", x.machine(1, 6), 0);
         due.is("HALTED", x.machine(1, 7), 0);
+    }
+
+    private static void promise4BeginsAnew() {
+        MeetingMachines x = Due.of("join 1 0 0 0; s: ldc 70; ldc 0; ldc 2; out; t: ldc 900; tin; stopp;"
+                + "m: ldc 70; ldc 60; ldc 1; in; stopp; n: ldc 70; ldc 60; ldc 1; out; c: ldc 3; ldc 1; enbc; stopp;"
+                + "run 1 20 0 s; run 0 30 0 t; run 0 40 0 m; run 0 50 0 n;");
+        x.tick(30);
+        due.is("a MEETING", x.count(5), 1);
+        due.is("FULL", x.link(0, 0, 4), 1);
+        due.is("TIMERS", x.machine(0, 10), 1);
+        due.is("ALT", x.link(0, 1, 6), 100);
+        x.keep(0);
+        x.keep(1);
+        Due.tape(x, "");
+        due.is("text() of nothing", x.text(), 0);
+        due.is("MEETINGS", x.count(5), 0);
+        due.is("meeting(0, 0)", x.meeting(0, 0), -1);
+        due.is("TICKS", x.count(4), 0);
+        due.is("FULL", x.link(0, 0, 4), 0);
+        due.is("ALT", x.link(0, 1, 6), -1);
+        due.is("who sends", x.link(1, 0, 0), -1);
+        due.is("left to send", x.link(1, 0, 1), 0);
+        due.is("TIMERS", x.machine(0, 10), 0);
+        due.is("word", x.word(0, 70), -1);
+        due.no("back(0)", x.back(0));
+        due.no("back(1)", x.back(1));
+        due.yes("stuck()", x.stuck());
     }
 
     private static void fault(String text, int place, int kind) {
