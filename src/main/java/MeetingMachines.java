@@ -555,7 +555,7 @@ public final class MeetingMachines {
         private int uses;
         private final int[] useName = new int[MOST_USES];
         private final int[] usePlace = new int[MOST_USES];
-        // an INSTRUCTION, or behind all that can be: a run
+        // whose LABEL it is: an INSTRUCTION's, or a run's, with MOST_CODE added to tell the two apart
         private final int[] user = new int[MOST_USES];
 
         Reader() {
@@ -1866,6 +1866,7 @@ public final class MeetingMachines {
 
     /** INSTRUCTIONS that are found by WAYS. */
     private static final class Ways {
+        private int size;
         private final boolean[] isPicked = new boolean[Program.MOST_CODE];
         private final boolean[] isSeen = new boolean[Program.MOST_CODE];
         private final int[] open = new int[Program.MOST_CODE];
@@ -1873,16 +1874,17 @@ public final class MeetingMachines {
 
         /** Picks those that are come to from one, it too. */
         void comeFrom(Program program, int i) {
-            begin();
-            see(program, i);
+            begin(program);
+            see(i);
             follow(program, true);
-            System.arraycopy(isSeen, 0, isPicked, 0, isSeen.length);
+            System.arraycopy(isSeen, 0, isPicked, 0, size);
         }
 
         /** Picks those from which one comes to them again without a j. */
         void comeBack(Program program) {
-            for (int i = 0; i < isPicked.length; i++) {
-                begin();
+            size = program.size;
+            for (int i = 0; i < size; i++) {
+                begin(program);
                 goOn(program, i, false);
                 follow(program, false);
                 isPicked[i] = isSeen[i];
@@ -1892,7 +1894,7 @@ public final class MeetingMachines {
         /** The k-th picked; how many (k NONE); LACKING for others. */
         int pick(int k) {
             int many = 0;
-            for (int i = 0; i < isPicked.length; i++) {
+            for (int i = 0; i < size; i++) {
                 if (isPicked[i]) {
                     if (many == k) {
                         return i;
@@ -1903,35 +1905,34 @@ public final class MeetingMachines {
             return k == NONE ? many : LACKING;
         }
 
-        private void begin() {
+        private void begin(Program program) {
+            size = program.size;
             opened = 0;
-            for (int i = 0; i < isSeen.length; i++) {
+            for (int i = 0; i < size; i++) {
                 isSeen[i] = false;
             }
         }
 
         /** Each INSTRUCTION is opened once at most, so there is an end. */
         private void follow(Program program, boolean byJumps) {
-            for (int i = 0; i < opened && i < open.length; i++) {
+            for (int i = 0; i < opened && i < size; i++) {
                 goOn(program, open[i], byJumps);
             }
         }
 
         private void goOn(Program program, int i, boolean byJumps) {
-            if (i < 0 || i >= program.size) {
-                return;
-            }
             int op = program.op[i];
             if (op == CJ || op == J && byJumps) {
-                see(program, program.number[i]);
+                see(program.number[i]);
             }
             if (op != J && op != ENDP && op != ALTEND && op != HALT) {
-                see(program, i + 1);
+                see(i + 1);
             }
         }
 
-        private void see(Program program, int i) {
-            if (i >= 0 && i < program.size && !isSeen[i]) {
+        /** There may be none: behind the last INSTRUCTION is nothing. */
+        private void see(int i) {
+            if (i >= 0 && i < size && !isSeen[i]) {
                 isSeen[i] = true;
                 open[opened] = i;
                 opened++;
