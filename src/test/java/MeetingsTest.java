@@ -125,6 +125,14 @@ public final class MeetingsTest {
         due.is("at 51", x.timer(0, -1, 0), 0);
         due.is("HIGH at 51", x.queue(0, 0, 0), 80);
         due.is("LOW at 51", x.queue(0, 1, 0), 41);
+        // W may be odd
+        x = Due.of("a: ldl 1; tin; word 0 22 50; word 0 32 45; word 0 42 48; word 0 52 47;"
+                + "run 0 21 0 a; run 0 31 0 a; run 0 41 1 a; run 0 51 1 a;");
+        x.tick(8);
+        timer(x, 0, 62, 45);
+        timer(x, 1, 42, 50);
+        timer(x, 2, 103, 47);
+        timer(x, 3, 83, 48);
         // like times: who came first stands first
         x = Due.of("a: ldc 9; tin; run 0 20 0 a; run 0 30 0 a;");
         x.tick(4);

@@ -127,7 +127,7 @@ public final class ModelTest {
     }
 
     private int some() {
-        return tales.from(-1, -2, -3, -4, -5, -6, 0, 1, 2, 24, 25, 40, 41, 57, 72, 105, 191, 192, 9, 10, 4000,
+        return tales.from(-1, -2, -3, -4, -5, -6, 0, 1, 2, 24, 25, 40, 41, 58, 72, 107, 191, 192, 9, 10, 4000,
                 Integer.MAX_VALUE, Integer.MIN_VALUE);
     }
 
@@ -140,13 +140,13 @@ public final class ModelTest {
                 same("slice(" + n + ")", () -> x.slice(n), () -> y.slice(n));
             }
             case 1 -> {
-                int place = tales.below(3) == 0 ? place() : tales.from(12, 20, 28, 36, 44, 52) - tales.below(7) + 1;
+                int place = tales.below(3) == 0 ? place() : tales.from(12, 20, 29, 36, 45, 53) - tales.below(7) + 1;
                 int v = some();
                 same("poke(" + m + ", " + place + ", " + v + ")", () -> x.poke(m, place, v) ? 1 : 0,
                         () -> y.poke(m, place, v) ? 1 : 0);
             }
             case 2 -> {
-                int w = tales.from(12, 20, 28, 36, 44, 52, 5, 95, 4, 96);
+                int w = tales.from(12, 20, 29, 36, 45, 53, 5, 95, 4, 96);
                 int priority = tales.from(0, 1, 0, 1, 0, 1, 2, -1);
                 int i = tales.below(60) - 1;
                 same("start(" + m + ", " + w + ", " + priority + ", " + i + ")", () -> x.start(m, w, priority, i) ? 1

@@ -1,6 +1,6 @@
 /** Makes texts and numbers from a seed, always the same ones. */
 final class Tales {
-    private static final int[] WS = {12, 20, 28, 36, 44, 52};
+    private static final int[] WS = {12, 20, 29, 36, 45, 53};
     private static final String[] PLAIN = {"add", "sub", "mul", "gt", "rev", "dup", "ldpri", "clock"};
 
     private long state;
@@ -44,7 +44,7 @@ final class Tales {
             say("slice " + (1 + below(12)));
         }
         for (int k = below(3); k > 0; k--) {
-            say("word " + below(2) + " " + from(61, 62, 63, 13, 21, 29, 12, 20) + " " + from(-1, 1, 2, 3, 40, 57, 7));
+            say("word " + below(2) + " " + from(61, 62, 63, 13, 21, 30, 12, 20) + " " + from(-1, 1, 2, 3, 40, 57, 7));
         }
         int[] sides = {0, 1, 2, 3};
         int[] others = {0, 1, 2, 3};

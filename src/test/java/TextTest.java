@@ -10,6 +10,7 @@ public final class TextTest {
         promise4BeginsAnew();
         promise4Faults();
         promise4BoundsOfLines();
+        promise4CutTape();
         promise4AllElseStays();
         promise5Code();
         promise6Label();
@@ -181,6 +182,17 @@ public final class TextTest {
         fault("word 0 0 0 0;", 11, 1);
     }
 
+    /** What stood behind the end is not of THE TAPE. */
+    private static void promise4CutTape() {
+        MeetingMachines x = new MeetingMachines();
+        Due.tape(x, "abcdefghij");
+        x.end(6);
+        due.is("a WORD of 6", x.text(), Due.fault(6, 1));
+        Due.tape(x, "ldc 12345");
+        x.end(8);
+        due.is("a NUMBER of 4", x.text(), Due.fault(8, 1));
+    }
+
     private static void promise4BoundsOfLines() {
         fits("slice 1;", 0);
         fits("slice 60;", 0);
@@ -218,6 +230,8 @@ public final class TextTest {
         fault("in;".repeat(100) + " in;", 301, 4);
         fault("in;".repeat(100) + "a: in;", 303, 4);
         fault("in;".repeat(100) + "a: a", 303, 1);
+        fits("a:" + "j a;".repeat(100) + "run 0 9 0 a;".repeat(12), 100);
+        fault("a:" + "j a;".repeat(100) + "run 0 9 0 a;".repeat(11) + "run 0 9 0 b;", 2 + 400 + 11 * 12 + 10, 5);
         fault("j x;", 2, 5);
         fault("halt; run 0 20 0 x; j y;", 17, 5);
         fault("a: halt; j a; cj y; run 0 9 0 x;", 17, 5);
