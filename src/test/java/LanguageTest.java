@@ -8,6 +8,7 @@ import java.nio.file.Path;
 import java.util.ArrayList;
 import java.util.Arrays;
 import java.util.List;
+import java.util.NoSuchElementException;
 import java.util.TreeSet;
 import java.util.regex.Matcher;
 import java.util.regex.Pattern;
@@ -35,6 +36,10 @@ public final class LanguageTest {
         for (Method m : c.getDeclaredMethods()) {
             if (Modifier.isPublic(m.getModifiers())) {
                 seen.add(signature(m));
+                boolean lacks = m.getName().equals("code") || m.getName().equals("word");
+                due.yes(m + " throws what the face says", Arrays.equals(m.getExceptionTypes(), lacks
+                        ? new Class<?>[] {NoSuchElementException.class} : new Class<?>[0]));
+                due.yes(m + " is called on an object", !Modifier.isStatic(m.getModifiers()));
             } else {
                 due.yes(m + " is private", Modifier.isPrivate(m.getModifiers()));
             }
@@ -46,6 +51,7 @@ public final class LanguageTest {
             due.yes(f + " is private, or NONE", Modifier.isPrivate(f.getModifiers()) || f.getName().equals("NONE"));
         }
         due.is("NONE", MeetingMachines.NONE, -1);
+        due.is("public fields", c.getFields().length, 1);
         Constructor<?>[] all = c.getDeclaredConstructors();
         due.yes("one public constructor", all.length == 1 && Modifier.isPublic(all[0].getModifiers())
                 && all[0].getParameterCount() == 0);
