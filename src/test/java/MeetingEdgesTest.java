@@ -200,13 +200,17 @@ public final class MeetingEdgesTest {
     private static void orderOfWaiting() {
         for (String op : new String[] {"out", "in"}) {
             due.is("C behind OWN", fits(one("ldc 70; ldc 17; ldc 1; " + op + ";", ""), 4).word(0, 17), 70);
-            due.is("I behind OWN", fits(one("ldc 70; ldc 19; ldc 1; " + op + ";", "word 0 19 -1;"), 1).machine(0, 7), 0);
+            MeetingMachines x = fits(one("ldc 70; ldc 19; ldc 1; " + op + ";", ""), 3);
+            x.poke(0, 19, -1);
+            x.tick(1);
+            due.is("I behind OWN", x.word(0, 19), 4);
+            due.is("OFF", x.machine(0, 4), -1);
         }
         // a MEETING's words first, then the channel's -1
         MeetingMachines x = fits(one("ldc 59; ldc 60; ldc 2; in;", "word 0 60 100; word 0 47 80; word 0 81 7;"), 4);
         due.is("the channel", x.word(0, 60), -1);
-        x = fits(one("ldc 60; ldc 60; ldc 1; out;", "word 0 60 100; word 0 47 80;"), 4);
-        due.is("what the channel held", x.word(0, 80), 100);
+        MeetingMachines y = fits(one("ldc 60; ldc 60; ldc 1; out;", "word 0 60 100; word 0 47 80;"), 4);
+        due.is("what the channel held", y.word(0, 80), 100);
     }
 
     /** "CLEAR" of in, out that go on. */
